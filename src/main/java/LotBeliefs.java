@@ -59,13 +59,17 @@ public final class LotBeliefs {
     private final int[] row = new int[PIECES_MOST];
     private final Course course = new Course(jar, tongue);
     private final Course rival = new Course(jar, tongue);
-    private final Survey survey = new Survey();
+    /** One for each LAW. */
+    private final Survey[] surveys = new Survey[LAWS];
     private final Subsets subsets = new Subsets();
     private final Shortest shortest = new Shortest();
 
     public LotBeliefs() {
         for (int i = 0; i < images.length; i++) {
             images[i] = new Setting();
+        }
+        for (int i = 0; i < surveys.length; i++) {
+            surveys[i] = new Survey();
         }
     }
 
@@ -98,7 +102,7 @@ public final class LotBeliefs {
         tongue.clear();
         asked = jar.all;
         imaged = 0;
-        survey.fresh = false;
+        forgetSurveys();
         return jar.slips;
     }
 
@@ -125,7 +129,7 @@ public final class LotBeliefs {
         Tongue before = tongue;
         tongue = spareTongue;
         spareTongue = before;
-        survey.fresh = false;
+        forgetSurveys();
         return tongue.rules;
     }
 
@@ -203,7 +207,7 @@ public final class LotBeliefs {
         int bits = 0;
         for (int slip = 0; slip < jar.slips; slip++) {
             // where nothing was seen no SEEING kills, not even a SLIP without MODELS
-            if (jar.seeings == 0 || jar.death[slip] >= WEEKS) {
+            if (jar.seeings == 0 || (jar.dead[WEEKS - 1] >> slip & 1) == 0) {
                 bits |= 1 << slip;
             }
         }
@@ -311,7 +315,7 @@ public final class LotBeliefs {
     public int ends(int what) throws IllegalArgumentException, IllegalStateException {
         needBelow(what, 3);
         needFewSlips();
-        surveyBy(now.law);
+        Survey survey = surveyBy(now.law);
         switch (what) {
             case 0:
                 return survey.unlike();
@@ -325,13 +329,12 @@ public final class LotBeliefs {
     public int orders(int slip) throws IndexOutOfBoundsException, IllegalStateException {
         needSlip(slip);
         needFewSlips();
-        surveyBy(now.law);
-        return survey.heldInAll(1 << slip);
+        return surveyBy(now.law).heldInAll(1 << slip);
     }
 
     public int best() throws IllegalStateException {
         needFewSlips();
-        surveyBy(now.law);
+        Survey survey = surveyBy(now.law);
         int truths = jar.slipsSoIn(now.world);
         int end = survey.bestEnd(truths);
         takeOrder(survey.firstTo(end));
@@ -431,8 +434,7 @@ public final class LotBeliefs {
     public int compared(int law) throws IllegalArgumentException, IllegalStateException {
         needBelow(law, LAWS);
         needFewSlips();
-        surveyBy(law);
-        return survey.heldInAll(jar.slipsSoIn(now.world));
+        return surveyBy(law).heldInAll(jar.slipsSoIn(now.world));
     }
 
     public int drawn(int law, int seed, int many) throws IllegalArgumentException {
@@ -576,7 +578,7 @@ public final class LotBeliefs {
     public long worst(int what) throws IllegalArgumentException, IllegalStateException {
         needBelow(what, 2);
         needFewSlips();
-        surveyBy(now.law);
+        Survey survey = surveyBy(now.law);
         return what == 0 ? survey.mostHurts : survey.worstOrder;
     }
 
@@ -813,11 +815,13 @@ public final class LotBeliefs {
     }
 
     private void runYear() {
-        course.play(jar, tongue, now.law, now.world, now.order, jar.slips);
+        course.begin(jar, tongue, now.law, now.world);
+        course.play(now.order, jar.slips);
     }
 
     private int endOfRow(int law, int length) {
-        course.play(jar, tongue, law, now.world, row, length);
+        course.begin(jar, tongue, law, now.world);
+        course.play(row, length);
         return course.end;
     }
 
@@ -837,11 +841,20 @@ public final class LotBeliefs {
         for (int i = 0; i < jar.slips; i++) {
             row[i] = (i & 1) == school ? now.order[i] : NONE;
         }
-        by.play(jar, tongue, now.law, now.world, row, jar.slips);
+        by.begin(jar, tongue, now.law, now.world);
+        by.play(row, jar.slips);
     }
 
-    private void surveyBy(int law) {
+    private Survey surveyBy(int law) {
+        Survey survey = surveys[law >= 0 && law < surveys.length ? law : 0];
         survey.take(jar, tongue, law, now.world, course);
+        return survey;
+    }
+
+    private void forgetSurveys() {
+        for (int i = 0; i < surveys.length; i++) {
+            surveys[i].fresh = false;
+        }
     }
 
     /** How many GRAVES come ahead of that of a SLIP that is gone. */
@@ -862,22 +875,18 @@ public final class LotBeliefs {
     /** Where all stay none has fallen: so no LAW counts, only who can be held, and beside whom. */
     private boolean allStayWithout(int out) {
         int week = 0;
+        int ahead = 0;
         for (int i = 0; i < jar.slips; i++) {
             int slip = now.order[i];
             if ((out >> slip & 1) == 0) {
-                if (jar.death[slip] < WEEKS) {
+                if ((ahead & jar.foesOf(slip, week)) != 0) {
                     return false;
                 }
-                for (int j = 0; j < week; j++) {
-                    if (jar.apart(row[j], slip, week)) {
-                        return false;
-                    }
-                }
-                row[week] = slip;
+                ahead |= 1 << slip;
                 week++;
             }
         }
-        return true;
+        return (ahead & jar.dead[WEEKS - 1]) == 0;
     }
 
     // ---- classes inside ----
@@ -917,11 +926,13 @@ public final class LotBeliefs {
         /** Of SLIPS, and of SALTS from 12 on: MODELS, and how many. */
         final long[] models = new long[PIECES_MOST];
         final int[] sizes = new int[PIECES_MOST];
-        /** The first WEEK in which a piece is so in no WORLD that is LEFT; 52 without. */
-        final int[] death = new int[PIECES_MOST];
         final long[] sights = new long[SEEINGS_MOST];
         final int[] weeks = new int[SEEINGS_MOST];
         final long[] left = new long[WEEKS];
+        /** By WEEKS: pieces (bits) that are so in no WORLD that is LEFT. */
+        final int[] dead = new int[WEEKS];
+        /** By WEEKS in which a piece may be drawn, and by pieces: those (bits) it falls out with. */
+        private final int[] foes = new int[PIECES_MOST * PIECES_MOST];
 
         Jar() {
             clear();
@@ -930,6 +941,9 @@ public final class LotBeliefs {
 
         void clear() {
             tellAtoms(ATOMS_UNTOLD);
+            for (int piece = 0; piece < PIECES_MOST; piece++) {
+                models[piece] = 0;
+            }
             slips = 0;
             seeings = 0;
             salts = 0;
@@ -943,26 +957,64 @@ public final class LotBeliefs {
         }
 
         void settle() {
-            for (int week = 0; week < WEEKS; week++) {
-                long worlds = all;
-                for (int i = 0; i < seeings; i++) {
-                    worlds &= weeks[i] <= week ? sights[i] : all;
-                }
-                left[week] = worlds;
-            }
             for (int piece = 0; piece < PIECES_MOST; piece++) {
                 sizes[piece] = Long.bitCount(models[piece]);
-                death[piece] = deathWeek(models[piece]);
+            }
+            for (int week = 0; week < WEEKS; week++) {
+                left[week] = leftBy(week);
+                boolean news = week == 0 || left[week] != left[week - 1];
+                dead[week] = news ? deadIn(week) : dead[week - 1];
+                for (int piece = 0; piece < PIECES_MOST && week < PIECES_MOST; piece++) {
+                    int at = week * PIECES_MOST + piece;
+                    foes[at] = news ? foesIn(piece, week) : foes[at - PIECES_MOST];
+                }
             }
         }
 
-        private int deathWeek(long worlds) {
+        private long leftBy(int week) {
+            long worlds = all;
+            for (int i = 0; i < seeings; i++) {
+                if (weeks[i] <= week) {
+                    worlds &= sights[i];
+                }
+            }
+            return worlds;
+        }
+
+        private int deadIn(int week) {
+            int bits = 0;
+            for (int piece = 0; piece < PIECES_MOST; piece++) {
+                if ((models[piece] & left[week]) == 0) {
+                    bits |= 1 << piece;
+                }
+            }
+            return bits;
+        }
+
+        private int foesIn(int piece, int week) {
+            int bits = 0;
+            for (int other = 0; other < PIECES_MOST; other++) {
+                if (apart(piece, other, week)) {
+                    bits |= 1 << other;
+                }
+            }
+            return bits;
+        }
+
+        /** The first WEEK in which a piece is so in no WORLD that is LEFT; 52 without. */
+        int deathWeek(int piece) {
             for (int week = 0; week < WEEKS; week++) {
-                if ((worlds & left[week]) == 0) {
+                if ((dead[week] >> piece & 1) != 0) {
                     return week;
                 }
             }
             return WEEKS;
+        }
+
+        /** With whom a piece falls out that is drawn in a WEEK. */
+        int foesOf(int piece, int week) {
+            int at = week * PIECES_MOST + piece;
+            return at < 0 || at >= foes.length ? 0 : foes[at];
         }
 
         static long atomModels(int atom) {
@@ -1649,23 +1701,34 @@ public final class LotBeliefs {
         int end = 0;
         private final int[] chairs = new int[PIECES_MOST];
         private int seated = 0;
+        /** Those on the chairs, as bits. */
+        private int heldNow = 0;
 
         Course(Jar jar, Tongue tongue) {
             this.jar = jar;
             this.tongue = tongue;
         }
 
-        /** The row tells what is drawn on which Monday; NONE: nothing. */
-        void play(Jar jar, Tongue tongue, int law, int world, int[] row, int length) {
+        /** By what all is played from now on. */
+        void begin(Jar jar, Tongue tongue, int law, int world) {
             this.jar = jar;
             this.tongue = tongue;
             this.law = law;
             this.world = world;
-            seated = 0;
+        }
+
+        /** The row tells what is drawn on which Monday; NONE: nothing. */
+        void play(int[] row, int length) {
             for (int piece = 0; piece < begun.length; piece++) {
                 begun[piece] = NONE;
             }
-            for (int week = 0; week < length && week < row.length; week++) {
+            playFrom(row, length, 0);
+        }
+
+        /** Plays on from a Monday; ahead of it the row is as it was when it was played last. */
+        void playFrom(int[] row, int length, int from) {
+            goBack(row, from);
+            for (int week = from; week >= 0 && week < length && week < row.length; week++) {
                 bury(week);
                 int piece = row[week];
                 if (piece >= 0 && piece < begun.length) {
@@ -1673,22 +1736,44 @@ public final class LotBeliefs {
                 }
             }
             bury(WEEKS - 1);
-            end = 0;
-            for (int i = 0; i < seated; i++) {
-                if (chairs[i] < SLIPS_MOST) {
-                    end |= 1 << chairs[i];
+            end = heldNow & (1 << SLIPS_MOST) - 1;
+        }
+
+        /** Seats those who were held ahead of a Monday, as if nothing had come since. */
+        private void goBack(int[] row, int from) {
+            seated = 0;
+            heldNow = 0;
+            for (int week = 0; week < from && week < row.length; week++) {
+                int piece = row[week];
+                if (piece >= 0 && piece < begun.length && ended[piece] >= from) {
+                    seat(piece);
                 }
+            }
+        }
+
+        private void seat(int piece) {
+            ended[piece] = WEEKS;
+            foe[piece] = NONE;
+            slain[piece] = false;
+            if (seated < chairs.length) {
+                chairs[seated] = piece;
+                seated++;
+                heldNow |= 1 << piece;
             }
         }
 
         /** Takes from their chairs those that have died by a WEEK. */
         private void bury(int week) {
+            if ((heldNow & jar.dead[week]) == 0) {
+                return;
+            }
             int stay = 0;
             for (int i = 0; i < seated; i++) {
                 int piece = chairs[i];
-                if (jar.death[piece] <= week) {
-                    ended[piece] = jar.death[piece];
+                if ((jar.dead[week] >> piece & 1) != 0) {
+                    ended[piece] = jar.deathWeek(piece);
                     slain[piece] = true;
+                    heldNow &= ~(1 << piece);
                 } else {
                     chairs[stay] = piece;
                     stay++;
@@ -1698,49 +1783,48 @@ public final class LotBeliefs {
         }
 
         private void drawPiece(int piece, int week) {
-            boolean dead = jar.death[piece] <= week;
             begun[piece] = week;
-            ended[piece] = dead ? week : WEEKS;
-            foe[piece] = NONE;
-            slain[piece] = dead;
-            if (!dead) {
-                meetAll(piece, week);
+            if ((jar.dead[week] >> piece & 1) != 0) {
+                ended[piece] = week;
+                foe[piece] = NONE;
+                slain[piece] = true;
+            } else if ((heldNow & jar.foesOf(piece, week)) == 0 || standsAll(piece, week)) {
+                seat(piece);
             }
         }
 
-        private void meetAll(int piece, int week) {
+        /** Lets a new piece meet all that are held; whether it has not fallen. */
+        private boolean standsAll(int piece, int week) {
+            int foes = jar.foesOf(piece, week);
             int many = seated;
             int stay = 0;
+            boolean stands = true;
             for (int i = 0; i < many; i++) {
                 int old = chairs[i];
-                int falls = ended[piece] < WEEKS ? NONE : whoFalls(old, piece, week);
+                int falls = stands && (foes >> old & 1) != 0 ? whoFalls(old, piece, week) : NONE;
                 if (falls == BOTH || falls == NEW) {
                     fall(piece, old, week);
+                    stands = false;
                 }
                 if (falls == BOTH || falls == OLD) {
                     fall(old, piece, week);
+                    heldNow &= ~(1 << old);
                     seated--;
                 } else {
                     chairs[stay] = old;
                     stay++;
                 }
             }
-            if (ended[piece] >= WEEKS && stay < chairs.length) {
-                chairs[stay] = piece;
-                seated++;
-            }
+            return stands;
         }
 
         private void fall(int piece, int by, int week) {
             ended[piece] = week;
             foe[piece] = by;
+            slain[piece] = false;
         }
 
-        /** NONE: they do not fall out. */
         private int whoFalls(int old, int fresh, int week) {
-            if (!jar.apart(old, fresh, week)) {
-                return NONE;
-            }
             switch (law) {
                 case 0:
                     return BOTH;
@@ -1795,10 +1879,9 @@ public final class LotBeliefs {
         }
     }
 
-    /** ENDS by all ORDERS. What was found stands until the law, the world or a text changes. */
+    /** ENDS by all ORDERS and a LAW. They stand until the world that IS or a text changes. */
     private static final class Survey {
         boolean fresh = false;
-        private int law = 0;
         private int world = 0;
         /** Of each END: how many ORDERS lead to it, and the first of them. */
         private final int[] counts = new int[1 << ALL_ORDERS_SLIPS];
@@ -1808,11 +1891,10 @@ public final class LotBeliefs {
         private final int[] row = new int[ALL_ORDERS_SLIPS];
 
         void take(Jar jar, Tongue tongue, int law, int world, Course course) {
-            if (fresh && this.law == law && this.world == world) {
+            if (fresh && this.world == world) {
                 return;
             }
             fresh = true;
-            this.law = law;
             this.world = world;
             mostHurts = NONE;
             for (int set = 0; set < counts.length; set++) {
@@ -1822,11 +1904,14 @@ public final class LotBeliefs {
             for (int i = 0; i < slips; i++) {
                 row[i] = i;
             }
-            boolean more = true;
-            for (int i = 0; i < ALL_ORDERS && more; i++) {
-                course.play(jar, tongue, law, world, row, slips);
+            course.begin(jar, tongue, law, world);
+            course.play(row, slips);
+            note(course.end, course.hurtsInAll(), slips);
+            int from = advance(slips);
+            for (int i = 1; i < ALL_ORDERS && from != NONE; i++) {
+                course.playFrom(row, slips, from);
                 note(course.end, course.hurtsInAll(), slips);
-                more = advance(slips);
+                from = advance(slips);
             }
         }
 
@@ -1851,14 +1936,14 @@ public final class LotBeliefs {
             return order;
         }
 
-        /** Lays the row that comes next, SLIP by SLIP; false behind the last one. */
-        private boolean advance(int slips) {
+        /** Lays the row that comes next, SLIP by SLIP: the first place that changes; NONE: no more. */
+        private int advance(int slips) {
             int low = slips - 2;
             while (low >= 0 && row[low] > row[low + 1]) {
                 low--;
             }
             if (low < 0) {
-                return false;
+                return NONE;
             }
             int high = slips - 1;
             while (high > low && row[high] < row[low]) {
@@ -1868,7 +1953,7 @@ public final class LotBeliefs {
             for (int i = low + 1, j = slips - 1; i < j; i++, j--) {
                 change(i, j);
             }
-            return true;
+            return low;
         }
 
         private void change(int i, int j) {
