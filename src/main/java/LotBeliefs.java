@@ -69,7 +69,7 @@ public final class LotBeliefs {
             images[i] = new Setting();
         }
         for (int i = 0; i < surveys.length; i++) {
-            surveys[i] = new Survey();
+            surveys[i] = new Survey(i);
         }
     }
 
@@ -315,7 +315,8 @@ public final class LotBeliefs {
     public int ends(int what) throws IllegalArgumentException, IllegalStateException {
         needBelow(what, 3);
         needFewSlips();
-        Survey survey = surveyBy(now.law);
+        Survey survey = surveyOf(now.law);
+        survey.take(jar, tongue, now.world, course);
         switch (what) {
             case 0:
                 return survey.unlike();
@@ -329,12 +330,15 @@ public final class LotBeliefs {
     public int orders(int slip) throws IndexOutOfBoundsException, IllegalStateException {
         needSlip(slip);
         needFewSlips();
-        return surveyBy(now.law).heldInAll(1 << slip);
+        Survey survey = surveyOf(now.law);
+        survey.take(jar, tongue, now.world, course);
+        return survey.heldInAll(1 << slip);
     }
 
     public int best() throws IllegalStateException {
         needFewSlips();
-        Survey survey = surveyBy(now.law);
+        Survey survey = surveyOf(now.law);
+        survey.take(jar, tongue, now.world, course);
         int truths = jar.slipsSoIn(now.world);
         int end = survey.bestEnd(truths);
         takeOrder(survey.firstTo(end));
@@ -416,7 +420,7 @@ public final class LotBeliefs {
         int fewest = SALTS_MOST + 1;
         for (int salts = 0; salts < 1 << jar.salts; salts++) {
             int many = Integer.bitCount(salts);
-            if (many < fewest && (endWithSalts(salts) & slips) == slips) {
+            if (many < fewest && (endOfRow(now.law, laySalts(salts)) & slips) == slips) {
                 fewest = many;
                 best = salts;
             }
@@ -426,7 +430,7 @@ public final class LotBeliefs {
 
     public int salty(int salts) throws IllegalArgumentException {
         needBits(salts, jar.salts);
-        return endWithSalts(salts);
+        return endOfRow(now.law, laySalts(salts));
     }
 
     // ---- laws compared, orders drawn ----
@@ -434,7 +438,9 @@ public final class LotBeliefs {
     public int compared(int law) throws IllegalArgumentException, IllegalStateException {
         needBelow(law, LAWS);
         needFewSlips();
-        return surveyBy(law).heldInAll(jar.slipsSoIn(now.world));
+        Survey survey = surveyOf(law);
+        survey.take(jar, tongue, now.world, course);
+        return survey.heldInAll(jar.slipsSoIn(now.world));
     }
 
     public int drawn(int law, int seed, int many) throws IllegalArgumentException {
@@ -578,7 +584,8 @@ public final class LotBeliefs {
     public long worst(int what) throws IllegalArgumentException, IllegalStateException {
         needBelow(what, 2);
         needFewSlips();
-        Survey survey = surveyBy(now.law);
+        Survey survey = surveyOf(now.law);
+        survey.take(jar, tongue, now.world, course);
         return what == 0 ? survey.mostHurts : survey.worstOrder;
     }
 
@@ -684,7 +691,8 @@ public final class LotBeliefs {
         needSlip(slip);
         needBelow(age, WEEKS + 1);
         needWeek(week);
-        return tongue.judgeMeeting(jar, old, slip, age, 0, week, 1);
+        tongue.tell(jar, old, slip, age, 0, week, 1);
+        return tongue.whoFalls();
     }
 
     // ---- images and counts ----
@@ -816,16 +824,17 @@ public final class LotBeliefs {
 
     private void runYear() {
         course.begin(jar, tongue, now.law, now.world);
-        course.play(now.order, jar.slips);
+        course.play(now.order, jar.slips, 0);
     }
 
     private int endOfRow(int law, int length) {
         course.begin(jar, tongue, law, now.world);
-        course.play(row, length);
+        course.play(row, length, 0);
         return course.end;
     }
 
-    private int endWithSalts(int salts) {
+    /** Lays SALTS and the ORDER behind them into the row: its length. */
+    private int laySalts(int salts) {
         int ahead = 0;
         for (int salt = 0; salt < jar.salts; salt++) {
             if ((salts >> salt & 1) != 0) {
@@ -834,7 +843,7 @@ public final class LotBeliefs {
             }
         }
         copyOrder(ahead);
-        return endOfRow(now.law, ahead + jar.slips);
+        return ahead + jar.slips;
     }
 
     private void runSchool(Course by, int school) {
@@ -842,13 +851,11 @@ public final class LotBeliefs {
             row[i] = (i & 1) == school ? now.order[i] : NONE;
         }
         by.begin(jar, tongue, now.law, now.world);
-        by.play(row, jar.slips);
+        by.play(row, jar.slips, 0);
     }
 
-    private Survey surveyBy(int law) {
-        Survey survey = surveys[law >= 0 && law < surveys.length ? law : 0];
-        survey.take(jar, tongue, law, now.world, course);
-        return survey;
+    private Survey surveyOf(int law) {
+        return surveys[law >= 0 && law < surveys.length ? law : 0];
     }
 
     private void forgetSurveys() {
@@ -1128,43 +1135,31 @@ public final class LotBeliefs {
             if (kind == FAULTY) {
                 return;
             }
-            start = runEnd(behind, ' ', ' ');
-            behind = start;
-            if (start >= length) {
-                kind = ENDED;
-                return;
+            int at = behind;
+            while (at < length && text[at] == ' ') {
+                at++;
             }
-            value = text[start] & 255;
-            if (value >= 'a' && value <= 'z') {
+            start = at;
+            value = at < length ? text[at] & 255 : 0;
+            if (at >= length) {
+                kind = ENDED;
+            } else if (value >= 'a' && value <= 'z') {
                 kind = WORD;
-                behind = runEnd(start, 'a', 'z');
+                while (at < length && text[at] >= 'a' && text[at] <= 'z') {
+                    at++;
+                }
             } else if (value >= '0' && value <= '9') {
                 kind = NUMBER;
-                behind = runEnd(start, '0', '9');
-                value = numberTo(behind);
+                value = 0;
+                while (at < length && text[at] >= '0' && text[at] <= '9') {
+                    value = Math.min(value * 10 + text[at] - '0', TOO_GREAT);
+                    at++;
+                }
             } else {
                 kind = SIGN;
-                behind = start + 1;
+                at++;
             }
-        }
-
-        private int runEnd(int from, int low, int high) {
-            int i = from;
-            for (; i < length; i++) {
-                int c = text[i] & 255;
-                if (c < low || c > high) {
-                    return i;
-                }
-            }
-            return i;
-        }
-
-        private int numberTo(int end) {
-            int number = 0;
-            for (int i = start; i < end && i < length; i++) {
-                number = Math.min(number * 10 + (text[i] & 255) - '0', TOO_GREAT);
-            }
-            return number;
+            behind = at;
         }
 
         boolean goesOn() {
@@ -1260,11 +1255,7 @@ public final class LotBeliefs {
             return models;
         }
 
-        static long read(Tape tape, Jar jar) {
-            return readEither(tape, jar);
-        }
-
-        private static long readEither(Tape tape, Jar jar) {
+        static long readEither(Tape tape, Jar jar) {
             long models = readEach(tape, jar);
             for (int i = 0; i < TAPE_MOST && tape.isWord("or"); i++) {
                 tape.step();
@@ -1397,14 +1388,14 @@ public final class LotBeliefs {
 
         private static void readSlip(Tape tape, Jar jar, boolean tooMany) {
             if (begins(tape, tooMany || jar.slips >= SLIPS_MOST)) {
-                jar.models[jar.slips] = Sentence.read(tape, jar);
+                jar.models[jar.slips] = Sentence.readEither(tape, jar);
                 jar.slips++;
             }
         }
 
         private static void readSalt(Tape tape, Jar jar, boolean tooMany) {
             if (begins(tape, tooMany || jar.salts >= SALTS_MOST)) {
-                jar.models[SLIPS_MOST + jar.salts] = Sentence.read(tape, jar);
+                jar.models[SLIPS_MOST + jar.salts] = Sentence.readEither(tape, jar);
                 jar.salts++;
             }
         }
@@ -1412,7 +1403,7 @@ public final class LotBeliefs {
         private static void readSeeing(Tape tape, Jar jar, boolean tooMany) {
             if (begins(tape, tooMany || jar.seeings >= SEEINGS_MOST)) {
                 jar.weeks[jar.seeings] = tape.takeNumber(0, WEEKS - 1);
-                jar.sights[jar.seeings] = Sentence.read(tape, jar);
+                jar.sights[jar.seeings] = Sentence.readEither(tape, jar);
                 jar.seeings++;
             }
         }
@@ -1440,7 +1431,6 @@ public final class LotBeliefs {
         private int size = 0;
         private final int[] values = new int[10];
         private final int[] stack = new int[64];
-        private int top = 0;
 
         void clear() {
             rules = 0;
@@ -1454,8 +1444,8 @@ public final class LotBeliefs {
             }
         }
 
-        /** Who falls as a new piece meets an old one that was held for a while, among so many held. */
-        int judgeMeeting(Jar jar, int old, int fresh, int age, int hurts, int week, int held) {
+        /** Tells of a new piece that meets an old one, held for a while, among so many held. */
+        void tell(Jar jar, int old, int fresh, int age, int hurts, int week, int held) {
             values[0] = age;
             values[1] = hurts;
             values[2] = jar.sizes[old];
@@ -1466,42 +1456,34 @@ public final class LotBeliefs {
             values[7] = held;
             values[8] = Long.bitCount(jar.left[week]);
             values[9] = Long.bitCount(jar.models[old] & jar.models[fresh]);
-            return whoFalls();
         }
 
-        private int whoFalls() {
-            top = 0;
+        /** Who falls of those last told of. */
+        int whoFalls() {
+            int top = 0;
             for (int i = 0; i < size; i++) {
                 int what = code[i];
-                if (what < QUANTITY) {
-                    push(what);
-                } else if (what < SIGNS) {
-                    push(what - QUANTITY < values.length ? values[what - QUANTITY] : 0);
-                } else if (what == NOT) {
-                    push(pop() == 0 ? 1 : 0);
-                } else if (what < WHO) {
-                    int second = pop();
-                    push(reckon(what, pop(), second));
-                } else if (pop() != 0) {
-                    return what - WHO;
+                if (what < SIGNS && top < stack.length) {
+                    stack[top] = valueOf(what);
+                    top++;
+                } else if (what == NOT && top > 0) {
+                    stack[top - 1] ^= 1;
+                } else if (what < WHO && top > 1) {
+                    top--;
+                    stack[top - 1] = reckon(what, stack[top - 1], stack[top]);
+                } else if (what >= WHO && top > 0) {
+                    top--;
+                    if (stack[top] != 0) {
+                        return what - WHO;
+                    }
                 }
             }
             return BOTH;
         }
 
-        private void push(int value) {
-            if (top < stack.length) {
-                stack[top] = value;
-                top++;
-            }
-        }
-
-        private int pop() {
-            if (top <= 0) {
-                return 0;
-            }
-            top--;
-            return stack[top];
+        private int valueOf(int what) {
+            int quantity = what - QUANTITY;
+            return quantity >= 0 && quantity < values.length ? values[quantity] : what;
         }
 
         private static int reckon(int sign, int first, int second) {
@@ -1531,22 +1513,18 @@ public final class LotBeliefs {
         static void read(Tape tape, Tongue tongue) {
             tongue.clear();
             for (int i = 0; i < LINE_MOST && tape.goesOn(); i++) {
-                readRule(tape, tongue);
-            }
-        }
-
-        private static void readRule(Tape tape, Tongue tongue) {
-            int who = whoHere(tape);
-            if (who == NONE) {
-                tape.fail(FAULT_STAND);
-            } else if (tongue.rules >= RULES_MOST) {
-                tape.fail(FAULT_MANY);
-            } else {
-                tape.step();
-                readEither(tape, tongue);
-                tape.takeSign(';');
-                tongue.add(Tongue.WHO + who);
-                tongue.rules++;
+                int who = whoHere(tape);
+                if (who == NONE) {
+                    tape.fail(FAULT_STAND);
+                } else if (tongue.rules >= RULES_MOST) {
+                    tape.fail(FAULT_MANY);
+                } else {
+                    tape.step();
+                    readEither(tape, tongue);
+                    tape.takeSign(';');
+                    tongue.add(Tongue.WHO + who);
+                    tongue.rules++;
+                }
             }
         }
 
@@ -1717,22 +1695,17 @@ public final class LotBeliefs {
             this.world = world;
         }
 
-        /** The row tells what is drawn on which Monday; NONE: nothing. */
-        void play(int[] row, int length) {
-            for (int piece = 0; piece < begun.length; piece++) {
-                begun[piece] = NONE;
-            }
-            playFrom(row, length, 0);
-        }
-
-        /** Plays on from a Monday; ahead of it the row is as it was when it was played last. */
-        void playFrom(int[] row, int length, int from) {
+        /**
+         * The row tells what is drawn on which Monday; NONE: nothing. Played is from a Monday on:
+         * ahead of it the row is as it was when it was played last, and so is what came of it.
+         */
+        void play(int[] row, int length, int from) {
             goBack(row, from);
             for (int week = from; week >= 0 && week < length && week < row.length; week++) {
                 bury(week);
                 int piece = row[week];
-                if (piece >= 0 && piece < begun.length) {
-                    drawPiece(piece, week);
+                if (piece >= 0 && piece < begun.length && lives(piece, week) && stands(piece, week)) {
+                    seat(piece);
                 }
             }
             bury(WEEKS - 1);
@@ -1743,6 +1716,11 @@ public final class LotBeliefs {
         private void goBack(int[] row, int from) {
             seated = 0;
             heldNow = 0;
+            for (int piece = 0; piece < begun.length; piece++) {
+                if (begun[piece] >= from) {
+                    begun[piece] = NONE;
+                }
+            }
             for (int week = 0; week < from && week < row.length; week++) {
                 int piece = row[week];
                 if (piece >= 0 && piece < begun.length && ended[piece] >= from) {
@@ -1782,29 +1760,28 @@ public final class LotBeliefs {
             seated = stay;
         }
 
-        private void drawPiece(int piece, int week) {
+        /** Draws a piece; whether it is not KILLED at once. */
+        private boolean lives(int piece, int week) {
+            boolean dies = (jar.dead[week] >> piece & 1) != 0;
             begun[piece] = week;
-            if ((jar.dead[week] >> piece & 1) != 0) {
-                ended[piece] = week;
-                foe[piece] = NONE;
-                slain[piece] = true;
-            } else if ((heldNow & jar.foesOf(piece, week)) == 0 || standsAll(piece, week)) {
-                seat(piece);
-            }
+            ended[piece] = dies ? week : WEEKS;
+            foe[piece] = NONE;
+            slain[piece] = dies;
+            return !dies;
         }
 
         /** Lets a new piece meet all that are held; whether it has not fallen. */
-        private boolean standsAll(int piece, int week) {
-            int foes = jar.foesOf(piece, week);
-            int many = seated;
+        private boolean stands(int piece, int week) {
+            int foes = heldNow & jar.foesOf(piece, week);
+            int many = foes == 0 ? 0 : seated;
             int stay = 0;
-            boolean stands = true;
+            boolean standing = true;
             for (int i = 0; i < many; i++) {
                 int old = chairs[i];
-                int falls = stands && (foes >> old & 1) != 0 ? whoFalls(old, piece, week) : NONE;
+                int falls = standing && (foes >> old & 1) != 0 ? whoFalls(old, piece, week) : NONE;
                 if (falls == BOTH || falls == NEW) {
                     fall(piece, old, week);
-                    stands = false;
+                    standing = false;
                 }
                 if (falls == BOTH || falls == OLD) {
                     fall(old, piece, week);
@@ -1815,7 +1792,7 @@ public final class LotBeliefs {
                     stay++;
                 }
             }
-            return stands;
+            return standing;
         }
 
         private void fall(int piece, int by, int week) {
@@ -1837,7 +1814,8 @@ public final class LotBeliefs {
                 default:
                     int age = week - begun[old];
                     int hurts = jar.soIn(old, world) ? 0 : age;
-                    return tongue.judgeMeeting(jar, old, fresh, age, hurts, week, seated);
+                    tongue.tell(jar, old, fresh, age, hurts, week, seated);
+                    return tongue.whoFalls();
             }
         }
 
@@ -1881,6 +1859,7 @@ public final class LotBeliefs {
 
     /** ENDS by all ORDERS and a LAW. They stand until the world that IS or a text changes. */
     private static final class Survey {
+        private final int law;
         boolean fresh = false;
         private int world = 0;
         /** Of each END: how many ORDERS lead to it, and the first of them. */
@@ -1890,7 +1869,11 @@ public final class LotBeliefs {
         long worstOrder = 0;
         private final int[] row = new int[ALL_ORDERS_SLIPS];
 
-        void take(Jar jar, Tongue tongue, int law, int world, Course course) {
+        Survey(int law) {
+            this.law = law;
+        }
+
+        void take(Jar jar, Tongue tongue, int world, Course course) {
             if (fresh && this.world == world) {
                 return;
             }
@@ -1905,11 +1888,9 @@ public final class LotBeliefs {
                 row[i] = i;
             }
             course.begin(jar, tongue, law, world);
-            course.play(row, slips);
-            note(course.end, course.hurtsInAll(), slips);
-            int from = advance(slips);
-            for (int i = 1; i < ALL_ORDERS && from != NONE; i++) {
-                course.playFrom(row, slips, from);
+            int from = 0;
+            for (int i = 0; i < ALL_ORDERS && from != NONE; i++) {
+                course.play(row, slips, from);
                 note(course.end, course.hurtsInAll(), slips);
                 from = advance(slips);
             }
