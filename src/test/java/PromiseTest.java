@@ -136,6 +136,7 @@ public final class PromiseTest {
         fault("slip\ta;", -9, 4);
         fault("slipa;", -9, 0);
         fault("slip aa;", -9, 5);
+        fault("slip az;", -9, 5);
         fault("slip a b;", -9, 7);
         fault("slip a and;", -9, 10);
         fault("slip and;", -9, 5);
@@ -566,8 +567,11 @@ public final class PromiseTest {
         due(pair.ends(0), 2);
         Feeder.tongue(pair, "both 1=1;");
         due(pair.ends(0), 1);
+        Feeder.tongue(pair, "new 1=1;");
+        due(pair.ends(0), 2);
         Feeder.tongue(pair, "old hurts=1;");
         due(pair.ends(0), 2);
+        due(pair.ends(1), 0);
         due(pair.ends(2), 1);
         pair.world(1);
         due(pair.ends(2), 2);
@@ -594,6 +598,10 @@ public final class PromiseTest {
         due(x.best(), 0);
         due(x.at(0), 0);
         due(x.at(1), 1);
+        LotBeliefs tie = with("slip a;slip not a;law 4;");
+        Feeder.tongue(tie, "old oldn=1;");
+        due(tie.best(), 0);
+        due(tie.at(0), 0);
         refused(STATE, eight::best);
         due(eight.at(7), 7);
         due(new LotBeliefs().best(), 0);
@@ -647,6 +655,27 @@ public final class PromiseTest {
         due(x.sets(2, 1), 13);
         due(x.sets(2, 2), 1);
         due(x.sets(2, 3), 2);
+        StringBuilder all = new StringBuilder();
+        for (int w = 0; w < 12; w++) {
+            all.append("slip ");
+            for (int atom = 0; atom < 4; atom++) {
+                all.append(atom > 0 ? " or " : "").append((w >> atom & 1) != 0 ? "not " : "");
+                all.append((char) ('a' + atom));
+            }
+            all.append(';');
+        }
+        LotBeliefs needed = with(all + "see 1 not c or not d;");
+        due(needed.sets(0, 3), NONE);
+        due(needed.sets(0, 0), 4096);
+        due(needed.sets(0, 2), 1);
+        due(needed.sets(1, 0), 4095);
+        due(needed.sets(1, 1), 2047);
+        due(needed.sets(1, 2), 12);
+        due(needed.sets(1, 3), 4095);
+        due(needed.whole(1, 11), 4094);
+        Feeder.question(needed, "c and d");
+        due(needed.proof(0), 4095);
+        due(needed.proof(1), NONE);
         refused(ARGUMENT, () -> x.sets(52, 0));
         refused(ARGUMENT, () -> x.sets(0, 4));
         refused(ARGUMENT, () -> x.sets(0, -1));
@@ -737,6 +766,16 @@ public final class PromiseTest {
         due(x.salted(3), NONE);
         refused(ARGUMENT, () -> x.salted(4));
         refused(ARGUMENT, () -> x.salted(-1));
+        LotBeliefs late = with("slip a;slip not a;salt b;salt b;salt b;salt b;salt b;see 6 not a;law 1;");
+        due(late.salted(2), 31);
+        due(late.salted(1), NONE);
+        late.law(2);
+        due(late.salted(2), 0);
+        LotBeliefs fifth = with("slip a;slip not a;salt b;salt b;salt b;salt b;salt b;law 4;");
+        Feeder.tongue(fifth, "old week=6;both week<6;");
+        due(fifth.salted(2), 31);
+        Feeder.tongue(fifth, "old week=3;both 1=1;");
+        due(fifth.salted(2), 3);
         LotBeliefs two = with("slip a;slip b;salt c;salt not c and a;salt not c;salt a;law 0;see 1 not a;");
         due(two.salted(2), 0);
         due(two.salted(1), NONE);
@@ -866,6 +905,9 @@ public final class PromiseTest {
         LotBeliefs war = with("slip a;slip not a;");
         due(war.war(0), 51);
         due(war.war(1), 1);
+        LotBeliefs nothing = with("slip a;see 0 b;see 0 not b;");
+        due(nothing.war(0), 52);
+        due(nothing.war(1), 0);
         due(with("slip a;slip b;").war(0), 0);
         due(with("slip a;slip b;").war(1), NONE);
         refused(ARGUMENT, () -> x.war(2));
@@ -1019,6 +1061,9 @@ public final class PromiseTest {
         due(new LotBeliefs().humble(), 0);
         due(with("slip a;slip not a;").humble(), 1);
         due(with("slip a;see 30 not a;").humble(), 1);
+        due(with("slip a;slip b;see 2 not a or not b;").humble(), 0);
+        due(with("slip a;slip b;see 1 not a or not b;").humble(), 1);
+        due(with("slip c;slip a;slip b;see 2 not a or not b;").humble(), 1);
         due(with("slip a;slip b;slip not b;slip c;see 51 b;").humble(), 4);
         LotBeliefs move = with("slip a;slip b;slip not b or c;slip not a or not b;see 2 b;see 3 not c;");
         due(move.humble(), 4 + 1);
