@@ -1255,7 +1255,7 @@ public final class LotBeliefs {
             return models;
         }
 
-        static long readEither(Tape tape, Jar jar) {
+        private static long readEither(Tape tape, Jar jar) {
             long models = readEach(tape, jar);
             for (int i = 0; i < TAPE_MOST && tape.isWord("or"); i++) {
                 tape.step();
