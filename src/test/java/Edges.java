@@ -1,3 +1,5 @@
+import java.math.BigInteger;
+
 /**
  * A frame for tests of single sentences of the document: each bears the sentence that it holds the
  * class to (the promise's number ahead), and is told by it when it fails.
@@ -144,5 +146,23 @@ final class Edges {
             fail("a question is not read, fault at " + x.fault() + ": " + question);
         }
         return x;
+    }
+
+    /** The ORDER drawn by a SEED, reckoned with numbers of any length. */
+    static int[] lot(int slips, int seed) {
+        int[] row = new int[slips];
+        for (int i = 0; i < slips; i++) {
+            row[i] = i;
+        }
+        BigInteger word = BigInteger.ONE.shiftLeft(32);
+        BigInteger s = BigInteger.valueOf(seed).mod(word);
+        for (int places = slips; places >= 2; places--) {
+            s = s.multiply(BigInteger.valueOf(1103515245)).add(BigInteger.valueOf(12345)).mod(word);
+            int other = s.shiftRight(16).mod(BigInteger.valueOf(32768)).mod(BigInteger.valueOf(places)).intValue();
+            int slip = row[places - 1];
+            row[places - 1] = row[other];
+            row[other] = slip;
+        }
+        return row;
     }
 }

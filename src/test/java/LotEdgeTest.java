@@ -1,5 +1,3 @@
-import java.math.BigInteger;
-
 /** The edges of ORDERS by the many, SALTS, LAWS compared and SCHOOLS (promises 23 to 25, 32 to 38, 45, 46, 50). */
 public final class LotEdgeTest {
     private static final int NONE = Edges.NONE;
@@ -152,6 +150,12 @@ public final class LotEdgeTest {
             Edges.row(x::ends, 2, 0, 0);
             Feeder.jar(x, "slip a;");
             Edges.row(x::ends, 1, 1, 0);
+            for (int law = 0; law < 5; law++) {
+                Feeder.jar(x, "slip a;slip b;law " + law + ";");
+                Edges.row(x::ends, 1, 3, 0);
+                Feeder.jar(x, "slip c and not c;law " + law + ";");
+                Edges.row(x::ends, 1, 0, 1);
+            }
         });
     }
 
@@ -164,6 +168,19 @@ public final class LotEdgeTest {
             y.order(0x6543210L);
             Edges.due(y.best(), 0);
             Edges.row(y::at, 0, 1, 2, 3, 4, 5, 6, NONE);
+        });
+        Edges.of("T BEST: two ENDS with as many: the first ORDER, whichever END", () -> {
+            bestIs("slip a;slip not a and b;law 1;", 0, 0, 1);
+            bestIs("slip a;slip not a and b;law 2;", 0, 0, 1);
+            bestIs("slip a;slip not a;slip c and not c;see 2 a;law 0;", 0, 0, 1, 2);
+            bestIs("slip a;slip not a;slip b;law 1;world 2;", 2, 1, 0, 2);
+            bestIs("slip a;slip not a;slip b;law 2;world 2;", 2, 0, 1, 2);
+        });
+        Edges.of("T BEST: more is better than sooner", () -> {
+            bestIs("slip a;slip not a;law 2;world 1;", 1, 1, 0);
+            bestIs("slip a;slip not a;law 2;world 0;", 1, 0, 1);
+            bestIs("slip a;slip not a;law 1;world 0;", 1, 1, 0);
+            bestIs("slip b and not a;slip a;slip not a;slip a;law 1;world 1;", 2, 1, 0, 2, 3);
         });
         Edges.of("25 BEST becomes the ORDER: how many are so", () -> {
             LotBeliefs x = Edges.with(FOUR);
@@ -195,6 +212,13 @@ public final class LotEdgeTest {
             Edges.due(x.best(), 0);
             Edges.row(x::at, 0, 1);
         });
+    }
+
+    private static void bestIs(String jar, int so, long... order) {
+        LotBeliefs x = Edges.with(jar);
+        Edges.due(x.best(), so);
+        Edges.row(x::at, order);
+        Edges.due(x.year(4), so);
     }
 
     private static void compared() {
@@ -233,6 +257,12 @@ public final class LotEdgeTest {
             Edges.row(x::worst, 0, 0x012);
             x.world(5);
             Edges.row(x::worst, 52, 0x102);
+        });
+        Edges.of("T WORST: a SLIP that falls by one ORDER and stays by the next", () -> {
+            LotBeliefs x = Edges.with("slip a;slip not a;slip b;see 2 a;law 0;");
+            Edges.row(x::worst, 52 + 51, 0x021);
+            LotBeliefs y = Edges.with("slip a;slip b;slip not b;see 3 b;slip c;world 0;law 0;");
+            Edges.row(y::worst, 52 + 51 + 50, 0x0132);
         });
         Edges.of("45 the hurts; as digits to the base 16", () -> {
             LotBeliefs x = Edges.with("slip a;".repeat(6) + "slip b;world 1;");
@@ -357,24 +387,6 @@ public final class LotEdgeTest {
 
     // ---- orders drawn ----
 
-    /** The ORDER drawn by a SEED, reckoned with numbers of any length. */
-    private static int[] lot(int slips, int seed) {
-        int[] row = new int[slips];
-        for (int i = 0; i < slips; i++) {
-            row[i] = i;
-        }
-        BigInteger word = BigInteger.ONE.shiftLeft(32);
-        BigInteger s = BigInteger.valueOf(seed).mod(word);
-        for (int places = slips; places >= 2; places--) {
-            s = s.multiply(BigInteger.valueOf(1103515245)).add(BigInteger.valueOf(12345)).mod(word);
-            int other = s.shiftRight(16).mod(BigInteger.valueOf(32768)).mod(BigInteger.valueOf(places)).intValue();
-            int slip = row[places - 1];
-            row[places - 1] = row[other];
-            row[other] = slip;
-        }
-        return row;
-    }
-
     private static long digits(int[] row) {
         long order = 0;
         for (int slip : row) {
@@ -391,7 +403,7 @@ public final class LotEdgeTest {
             for (int slips = 0; slips <= 12; slips++) {
                 LotBeliefs x = Edges.with("slip a;".repeat(slips));
                 for (int seed : new int[] {0, 1, -1, Integer.MAX_VALUE, Integer.MIN_VALUE}) {
-                    int[] lot = lot(slips, seed);
+                    int[] lot = Edges.lot(slips, seed);
                     for (int i = 0; i < slips; i++) {
                         Edges.due(x.draw(seed, i), lot[i]);
                     }
@@ -401,7 +413,7 @@ public final class LotEdgeTest {
         Edges.of("T ORDERS drawn: the SEED has 32 bits, and wraps", () -> {
             LotBeliefs x = Edges.with("slip a;".repeat(12));
             for (int seed : SEEDS) {
-                int[] lot = lot(12, seed);
+                int[] lot = Edges.lot(12, seed);
                 Edges.row(i -> x.draw(seed, i), lot[0], lot[1], lot[2], lot[3], lot[4], lot[5], lot[6], lot[7], lot[8],
                         lot[9], lot[10], lot[11]);
             }
@@ -425,7 +437,7 @@ public final class LotEdgeTest {
         Edges.of("36 the ORDER stays, and does not matter", () -> {
             LotBeliefs x = Edges.with("slip a;slip b;slip c;slip d;");
             x.order(0x3210);
-            int[] lot = lot(4, 5);
+            int[] lot = Edges.lot(4, 5);
             Edges.row(i -> x.draw(5, i), lot[0], lot[1], lot[2], lot[3]);
             Edges.row(x::at, 3, 2, 1, 0);
         });
@@ -439,7 +451,7 @@ public final class LotEdgeTest {
                 int sum = 0;
                 for (int many = 1; many <= 60; many++) {
                     LotBeliefs y = Edges.with(jar + "law " + law + ";");
-                    y.order(digits(lot(6, 500 + many)));
+                    y.order(digits(Edges.lot(6, 500 + many)));
                     sum += y.year(4);
                     Edges.due(x.drawn(law, 501, many), sum);
                 }
@@ -482,7 +494,7 @@ public final class LotEdgeTest {
             int[] sums = new int[6];
             for (int many = 1; many <= 60; many++) {
                 LotBeliefs y = Edges.with(jar);
-                y.order(digits(lot(6, many - 31)));
+                y.order(digits(Edges.lot(6, many - 31)));
                 for (int slip = 0; slip < 6; slip++) {
                     sums[slip] += y.year(0) >> slip & 1;
                     Edges.due(x.century(slip, -30, many), sums[slip]);

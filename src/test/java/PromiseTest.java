@@ -807,23 +807,6 @@ public final class PromiseTest {
         due(new LotBeliefs().salty(0), 0);
     }
 
-    /** The ORDER drawn by a SEED, reckoned with longs. */
-    private static int[] lot(int slips, int seed) {
-        int[] row = new int[slips];
-        for (int i = 0; i < slips; i++) {
-            row[i] = i;
-        }
-        long s = seed & 0xffffffffL;
-        for (int places = slips; places >= 2; places--) {
-            s = (s * 1103515245L + 12345L) % 4294967296L;
-            int other = (int) (s / 65536 % 32768 % places);
-            int slip = row[places - 1];
-            row[places - 1] = row[other];
-            row[other] = slip;
-        }
-        return row;
-    }
-
     private static void drawing() {
         LotBeliefs x = with(FOUR);
         LotBeliefs twelve = with(times("slip a;", 6) + times("slip not a;", 6) + "world 1;");
@@ -831,7 +814,7 @@ public final class PromiseTest {
         int[] seeds = {0, 1, 5, 77, -1, Integer.MAX_VALUE, Integer.MIN_VALUE, 123456789};
         for (int seed : seeds) {
             for (int i = 0; i < 12; i++) {
-                due(twelve.draw(seed, i), lot(12, seed)[i]);
+                due(twelve.draw(seed, i), Edges.lot(12, seed)[i]);
             }
         }
         due(x.draw(5, 4), NONE);
@@ -840,7 +823,7 @@ public final class PromiseTest {
         due(with("slip a;").draw(9, 0), 0);
         x.order(0x3210);
         for (int i = 0; i < 4; i++) {
-            due(x.draw(5, i), lot(4, 5)[i]);
+            due(x.draw(5, i), Edges.lot(4, 5)[i]);
             due(x.at(i), 3 - i);
         }
         promise = 35;
@@ -848,7 +831,7 @@ public final class PromiseTest {
         for (int law = 0; law < 4; law++) {
             int sum = 0;
             for (int i = 0; i < 60; i++) {
-                int[] row = lot(4, 40 + i);
+                int[] row = Edges.lot(4, 40 + i);
                 LotBeliefs y = with(FOUR);
                 y.order(row[0] << 12 | row[1] << 8 | row[2] << 4 | row[3]);
                 y.law(law);
@@ -866,7 +849,7 @@ public final class PromiseTest {
         twelve.law(1);
         int first = 0;
         for (int i = 0; i < 60; i++) {
-            first += lot(12, Integer.MAX_VALUE - 3 + i)[0] < 6 ? 1 : 0;
+            first += Edges.lot(12, Integer.MAX_VALUE - 3 + i)[0] < 6 ? 1 : 0;
         }
         due(twelve.century(3, Integer.MAX_VALUE - 3, 60), first);
         due(twelve.century(9, Integer.MAX_VALUE - 3, 60), 60 - first);

@@ -208,7 +208,8 @@ public final class SlipEdgeTest {
             Edges.between(x, 0, 3, what -> x.sets(0, what));
         });
         Edges.of("27 how many sets FIT: none to all", () -> {
-            Edges.row(w -> Edges.with(LOST).sets(w, 0), 4, 4, 4, 0, 0);
+            LotBeliefs x = Edges.with(LOST);
+            Edges.row(w -> x.sets(w, 0), 4, 4, 4, 0, 0);
             Edges.due(Edges.with("slip a;".repeat(12)).sets(51, 0), 4096);
             Edges.due(Edges.with(TWELVE).sets(0, 0), 2049);
         });
@@ -242,7 +243,8 @@ public final class SlipEdgeTest {
         Edges.of("27 CORE: NONE: there is none; none LEFT: the empty set", () -> {
             Edges.due(Edges.with("slip a;slip b;").sets(0, 3), NONE);
             Edges.due(Edges.with("slip a;".repeat(12)).sets(51, 3), NONE);
-            Edges.row(w -> Edges.with(LOST).sets(w, 3), 4, 4, 4, 0);
+            LotBeliefs x = Edges.with(LOST);
+            Edges.row(w -> x.sets(w, 3), 4, 4, 4, 0);
         });
         Edges.of("27 in a WEEK: by what is LEFT in it", () -> {
             LotBeliefs x = Edges.with("slip a;slip b;see 51 not a or not b;");
@@ -274,6 +276,15 @@ public final class SlipEdgeTest {
             Edges.row(i -> x.whole(1, i), 0, NONE);
         });
         Edges.of("28 none is WHOLE where no WORLD is LEFT", () -> Edges.due(Edges.with(LOST).whole(3, 0), NONE));
+        Edges.of("27, 28 no SLIP of a JAR that was read ahead counts", () -> {
+            LotBeliefs x = new LotBeliefs();
+            for (int slips = 12; slips >= 0; slips--) {
+                Feeder.jar(x, "slip a;".repeat(slips));
+                Edges.row(what -> x.sets(0, what), 1 << slips, (1 << slips) - 1, 1, NONE);
+                Edges.row(i -> x.whole(0, i), (1 << slips) - 1, NONE);
+                Edges.due(x.peace(0), (1 << slips) - 1);
+            }
+        });
         Edges.of("28 IllegalArgumentException: WEEK", () -> {
             LotBeliefs x = Edges.with(FOUR);
             Edges.between(x, 0, 51, week -> x.whole(week, 0));
@@ -303,20 +314,23 @@ public final class SlipEdgeTest {
         });
         Edges.of("T PROOF: so in all WORLDS that are LEFT: the empty set", () -> {
             Edges.due(Edges.asking("slip a;", "a or not a").proof(0), 0);
-            Edges.row(w -> Edges.asking("slip a;see 2 a;", "a").proof(w), 1, 1, 0, 0);
+            LotBeliefs x = Edges.asking("slip a;see 2 a;", "a");
+            Edges.row(x::proof, 1, 1, 0, 0);
             Edges.due(Edges.asking("slip a;", "a and not a").proof(0), NONE);
         });
-        Edges.of("T PROOF: all twelve", () -> {
+        Edges.of("T PROOF and CORE: all twelve", () -> {
             StringBuilder jar = new StringBuilder();
             for (int world = 0; world < 12; world++) {
                 jar.append("slip not [").append(world(world)).append("];");
             }
-            LotBeliefs x = Edges.asking(jar.toString(), "c and d");
+            LotBeliefs x = Edges.asking(jar + "see 1 not [c and d];", "c and d");
             Edges.due(x.proof(0), 4095);
-            Edges.due(x.sets(0, 3), NONE);
+            Edges.due(x.proof(1), NONE);
+            Edges.row(w -> x.sets(w, 3), NONE, 4095);
         });
         Edges.of("1 no QUESTION: it is always so", () -> {
-            Edges.row(w -> Edges.with(LOST).proof(w), 0, 0, 0, NONE);
+            LotBeliefs x = Edges.with(LOST);
+            Edges.row(x::proof, 0, 0, 0, NONE);
             Edges.due(Edges.with("atoms 6;slip f;").proof(0), 0);
         });
     }
@@ -377,7 +391,10 @@ public final class SlipEdgeTest {
             Edges.due(Edges.with("see 0 a and b;").likely(0), 3);
         });
         Edges.of("31 SALTS do not count", () -> Edges.due(Edges.with("salt a;salt b;").likely(0), 0));
-        Edges.of("31 NONE: none is LEFT", () -> Edges.row(w -> Edges.with(LOST).likely(w), 3, 3, 3, NONE));
+        Edges.of("31 NONE: none is LEFT", () -> {
+            LotBeliefs x = Edges.with(LOST);
+            Edges.row(x::likely, 3, 3, 3, NONE);
+        });
     }
 
     private static void together() {
@@ -410,7 +427,8 @@ public final class SlipEdgeTest {
             Edges.due(Edges.with(TWELVE).following(2049, 0), 4095);
         });
         Edges.of("41 from the empty set: what is so in all that are LEFT", () -> {
-            Edges.row(w -> Edges.with(LOST).following(0, w), 0, 1, 1, 7);
+            LotBeliefs x = Edges.with(LOST);
+            Edges.row(w -> x.following(0, w), 0, 1, 1, 7);
             Edges.due(Edges.with("slip a or not a;slip a;").following(0, 0), 1);
         });
         Edges.of("41 IllegalArgumentException: bits of no SLIPS, WEEK", () -> {
@@ -427,7 +445,8 @@ public final class SlipEdgeTest {
             Edges.due(Edges.with("slip a;".repeat(12)).quarrels(51), 0);
             Edges.due(Edges.with("slip a and not a;".repeat(12)).quarrels(0), 66);
             Edges.due(Edges.with(TWELVE).quarrels(0), 11);
-            Edges.row(w -> Edges.with(LOST).quarrels(w), 2, 2, 2, 3);
+            LotBeliefs lost = Edges.with(LOST);
+            Edges.row(lost::quarrels, 2, 2, 2, 3);
             LotBeliefs x = Edges.with("slip a;slip b;see 51 not a or not b;");
             Edges.due(x.quarrels(50), 0);
             Edges.due(x.quarrels(51), 1);
@@ -456,7 +475,8 @@ public final class SlipEdgeTest {
         Edges.of("T PEACE: nor one by itself", () -> {
             Edges.due(Edges.with("slip a and not a;slip b;").peace(0), 2);
             Edges.due(Edges.with("slip a and not a;").peace(0), 0);
-            Edges.row(w -> Edges.with(LOST).peace(w), 3, 3, 3, 0);
+            LotBeliefs x = Edges.with(LOST);
+            Edges.row(x::peace, 3, 3, 3, 0);
         });
         Edges.of("44 IllegalArgumentException: WEEK", () -> {
             LotBeliefs x = Edges.with(FOUR);
@@ -587,7 +607,8 @@ public final class SlipEdgeTest {
             LotBeliefs x = Edges.with("atoms 2;see 51 a;world 0;");
             Edges.due(x.asks(50), 3);
             Edges.due(x.asks(51), NONE);
-            Edges.row(w -> Edges.with(LOST).asks(w), 3, 2, 2, NONE);
+            LotBeliefs y = Edges.with(LOST);
+            Edges.row(y::asks, 3, 2, 2, NONE);
         });
     }
 }

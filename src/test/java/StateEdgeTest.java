@@ -17,6 +17,7 @@ public final class StateEdgeTest {
         goodTexts();
         setters();
         questions();
+        askedAgain();
         images();
         fullImages();
         status();
@@ -326,6 +327,56 @@ public final class StateEdgeTest {
                 for (ToLongFunction<LotBeliefs> call : ASKING) {
                     Edges.due(call.applyAsLong(x), call.applyAsLong(rich()));
                 }
+            }
+        });
+    }
+
+    private interface Numbered {
+        long answer(LotBeliefs x, int i);
+    }
+
+    private static void sameAgain(int most, Numbered... calls) {
+        for (Numbered call : calls) {
+            LotBeliefs x = rich();
+            for (int i = 0; i <= 2 * most; i++) {
+                int number = i * 7 % (most + 1);
+                Edges.due(call.answer(x, number), call.answer(rich(), number));
+            }
+        }
+    }
+
+    private static void askedAgain() {
+        Edges.of("calls of WEEKS answer alike, whichever WEEK was asked ahead", () -> sameAgain(51,
+                (x, w) -> x.left(51 - w), (x, w) -> x.held(51 - w), (x, w) -> x.sets(51 - w, 0), (x, w) -> x.sets(w, 1),
+                (x, w) -> x.sets(w, 2), (x, w) -> x.sets(51 - w, 3), (x, w) -> x.whole(w, 0), (x, w) -> x.proof(51 - w),
+                (x, w) -> x.split(w, 0), (x, w) -> x.likely(w), (x, w) -> x.school(w % 2, w), (x, w) -> x.eldest(w),
+                (x, w) -> x.quarrels(w), (x, w) -> x.peace(w), (x, w) -> x.peace(51 - w), (x, w) -> x.asks(w),
+                (x, w) -> x.known(w % 3, 51 - w), (x, w) -> x.canon(w), (x, w) -> x.judge(0, 1, w, 51 - w)));
+        Edges.of("calls of SLIPS answer alike, whichever SLIP was asked ahead", () -> sameAgain(3,
+                (x, s) -> x.fate(3 - s, 1), (x, s) -> x.fate(s, 2), (x, s) -> x.orders(3 - s), (x, s) -> x.killer(s),
+                (x, s) -> x.century(s, 9, 9), (x, s) -> x.plain(3 - s), (x, s) -> x.judge(s, 3 - s, 1, 1)));
+        Edges.of("calls of LAWS, sets and SALTS answer alike, whichever was asked ahead", () -> {
+            sameAgain(4, (x, law) -> x.compared(4 - law), (x, law) -> x.drawn(law, 5, 9));
+            sameAgain(15, (x, set) -> x.salted(15 - set), (x, set) -> x.following(set, 1));
+            sameAgain(3, (x, salts) -> x.salty(3 - salts), (x, i) -> x.draw(99, i), (x, i) -> x.grave(3 - i));
+        });
+        Edges.of("by a LAW and a world that IS that were left and are back", () -> {
+            LotBeliefs x = rich();
+            LotBeliefs y = rich();
+            for (int law = 0; law < 5; law++) {
+                for (int world = 0; world < 8; world++) {
+                    x.law(law);
+                    x.world(world);
+                    x.worst(0);
+                    x.year(3);
+                }
+            }
+            x.law(4);
+            x.world(6);
+            for (int what = 0; what < 2; what++) {
+                Edges.due(x.worst(what), y.worst(what));
+                Edges.due(x.ends(what), y.ends(what));
+                Edges.due(x.year(what), y.year(what));
             }
         });
     }

@@ -761,6 +761,13 @@ public final class TextEdgeTest {
             jarFault("|slipslip a;", 1);
             jarFault("|sl", 1);
         });
+        Edges.of("T WORDS: each letter counts", () -> {
+            String jar = "atoms 4;slip if a then b and not c or d;see 3 a;salt b;world 2;law 1;";
+            jar(jar, 1);
+            eachLetter(Feeder::jar, jar);
+            tongue(WORDS, 3);
+            eachLetter(Feeder::tongue, WORDS);
+        });
         Edges.of("T Numbers: digits, as many as stand there", () -> {
             Edges.due(Edges.with("world 000000000000000000000000015;").told(4), 15);
             Edges.due(Edges.with("law 00;").told(5), 0);
@@ -771,6 +778,20 @@ public final class TextEdgeTest {
             jarFault("world |2147483648;", 2);
             jarFault("world |18446744073709551616;", 2);
         });
+    }
+
+    private static final String WORDS = "new age=1 and hurts=2 or not olds=3;old news=4 and oldn=5 or newn=6;"
+            + "both week=7 and held=8 or not left=9 and shared=10;";
+
+    /** Any letter of a WORD of more than one, if it is another one, is a FAULT at the WORD's first byte. */
+    private static void eachLetter(BiFunction<LotBeliefs, String, Integer> as, String text) {
+        java.util.regex.Matcher word = java.util.regex.Pattern.compile("[a-z]{2,}").matcher(text);
+        while (word.find()) {
+            for (int i = word.start(); i < word.end(); i++) {
+                String spoilt = text.substring(0, i) + "q" + text.substring(i + 1);
+                fails(as, new LotBeliefs(), spoilt.substring(0, word.start()) + "|" + spoilt.substring(word.start()), 1);
+            }
+        }
     }
 
     // ---- faults ----
@@ -865,6 +886,17 @@ public final class TextEdgeTest {
             question("", many("[a] and ", 9) + "[a]", 8);
             question("", "[" + many("[a] and ", 9) + "[[[[[a]]]]]]", 8);
             questionFault("", "[" + many("[a] and ", 9) + "[[[[[|[a]]]]]]]", 3);
+        });
+        Edges.of("T what is open at a FAULT is not open in the next text", () -> {
+            LotBeliefs x = new LotBeliefs();
+            fails(Feeder::question, x, many("not ", 6) + "|?", 1);
+            reads(Feeder::question, x, many("not ", 6) + "a", 8);
+            fails(Feeder::jar, x, "slip " + many("[", 6) + "|?", 1);
+            reads(Feeder::jar, x, "slip " + many("[", 6) + "a" + many("]", 6) + ";", 1);
+            fails(Feeder::tongue, x, "new " + many("(", 6) + "|?", 1);
+            reads(Feeder::tongue, x, "new " + many("(", 6) + "1" + many(")", 6) + "=1;", 1);
+            fails(Feeder::tongue, x, "new " + many("[", 6) + "|(", 3);
+            reads(Feeder::tongue, x, "new " + many("not ", 6) + "1=1;", 1);
         });
         Edges.of("T each sentence of a JAR opens for itself", () ->
                 jar(many("slip " + many("not ", 6) + "a;", 9) + "see 1 " + many("[", 6) + "a" + many("]", 6) + ";", 9));

@@ -91,6 +91,17 @@ public final class TongueEdgeTest {
             holds(x, "0-1>0", false);
             holds(x, "0<0-1", false);
         });
+        Edges.of("T each R with not, and, or", () -> {
+            for (String so : new String[] {"1<2", "2>1", "3=3", "not 2<1", "not 1>2", "not 1=2"}) {
+                for (String too : new String[] {"1<2", "2>1", "3=3", "not 2<1", "not 1>2", "not 1=2"}) {
+                    holds(x, so + " and " + too, true);
+                    holds(x, "not [" + so + " and " + too + "]", false);
+                    holds(x, so + " and not [" + too + "]", false);
+                    holds(x, "not [" + so + "] or " + too, true);
+                    holds(x, "not [" + so + "] or not [" + too + "]", false);
+                }
+            }
+        });
         Edges.of("T G: H or H; H: I and I; I: not I, [ G ]", () -> {
             holds(x, "1=1 or 1=1 and 1=2", true);
             holds(x, "[1=1 or 1=1] and 1=2", false);

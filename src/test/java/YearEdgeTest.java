@@ -446,6 +446,11 @@ public final class YearEdgeTest {
                 Edges.due(x.eldest(week), week < 1 ? 0 : week < 5 ? 1 : week < 51 ? 2 : NONE);
             }
         });
+        Edges.of("42 NONE of twelve", () -> {
+            LotBeliefs x = Edges.with("slip a and not a;".repeat(12));
+            Edges.due(x.eldest(11), NONE);
+            Edges.due(x.eldest(51), NONE);
+        });
         Edges.of("42 by the ORDER, not by number", () -> {
             LotBeliefs x = Edges.with(TWELVE);
             x.order(0xBA9876543210L);
