@@ -6,6 +6,8 @@ import java.lang.reflect.Method;
 import java.lang.reflect.Modifier;
 import java.nio.file.Files;
 import java.nio.file.Path;
+import java.util.ArrayList;
+import java.util.List;
 import java.util.Map;
 import java.util.Set;
 import java.util.TreeMap;
@@ -21,6 +23,7 @@ public final class FaceTest {
 
     public static void main(String[] args) throws Exception {
         face();
+        sizes();
         language();
         room();
         System.out.println(wrong == 0 ? "the face and the source are as they should be" : wrong + " things wrong");
@@ -100,14 +103,32 @@ public final class FaceTest {
                 need(!open.contains(m.getName()), "a method inside with the name of a public one: " + m);
             }
         }
-        need(LotBeliefs.class.getDeclaredClasses().length <= 12, "too many classes inside");
+    }
+
+    /** At most twelve classes, twenty fields beside constants, seven parameters; what is static is constant. */
+    private static void sizes() {
+        List<Class<?>> all = new ArrayList<>(List.of(LotBeliefs.class.getDeclaredClasses()));
+        all.add(LotBeliefs.class);
+        need(all.size() <= 12, "classes: " + all.size());
+        for (Class<?> c : all) {
+            int fields = 0;
+            for (Field f : c.getDeclaredFields()) {
+                boolean shared = Modifier.isStatic(f.getModifiers());
+                fields += shared ? 0 : 1;
+                need(!shared || Modifier.isFinal(f.getModifiers()), "static and not final: " + f);
+            }
+            need(fields <= 20, c + " has fields: " + fields);
+            for (Method m : c.getDeclaredMethods()) {
+                need(m.getParameterCount() <= 7, "parameters: " + m);
+            }
+        }
     }
 
     private static void language() throws IOException {
         String source = Files.readString(SOURCE);
         String code = source.replaceAll("(?s)/\\*.*?\\*/", "").replaceAll("//[^\\n]*", "");
         for (String word : new String[] {"import", "package", "->", "::", "catch", "try", "finally", "synchronized",
-            "assert", "instanceof", "System.", "Exact", "double", "float", "@", "protected"}) {
+            "assert", "instanceof", "\" +", "+ \"", "static {", "finalize", "volatile", "transient", "System.", "Exact", "double", "float", "@", "protected"}) {
             need(!code.contains(word), "in the source: " + word);
         }
         need(code.chars().allMatch(c -> c < 128), "a sign above 127 in the source");

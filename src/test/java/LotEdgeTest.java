@@ -298,6 +298,9 @@ public final class LotEdgeTest {
             Edges.due(y.salted(2), 1);
             LotBeliefs z = Edges.with(pair + "salt b;salt c;salt d;see 3 not a;");
             Edges.due(z.salted(2), 3);
+            LotBeliefs one = Edges.with(pair + "salt b;salt c;salt not a;see 3 not a;");
+            Edges.due(one.salty(3), 2);
+            Edges.due(one.salted(2), 4);
             LotBeliefs last = Edges.with(pair + "salt b;salt b;salt b;salt b;salt not a;");
             Edges.due(last.salted(2), 16);
         });

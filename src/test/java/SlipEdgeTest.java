@@ -583,6 +583,8 @@ public final class SlipEdgeTest {
             Edges.due(Edges.with("atoms 3;see 0 [a and b and c] or [not a and not b and c];world 7;").asks(0), 1);
             Edges.due(Edges.with("atoms 3;see 0 [a and b] or [not a and not b and not c];world 0;").asks(0), 1);
             Edges.due(Edges.with("atoms 3;see 0 [a and b] or [not a and not b and not c];world 7;").asks(0), 4);
+            String three = "[a and b and c] or [a and not b and not c] or [b and not a and not c]";
+            Edges.due(Edges.with("atoms 3;see 0 " + three + ";world 7;").asks(0), 4);
             Edges.due(Edges.with("atoms 3;see 0 c;world 4;").asks(0), 3);
             Edges.due(Edges.with("atoms 3;see 0 a;world 1;").asks(0), 6);
             Edges.due(Edges.with("atoms 3;see 0 not a and not b or a and b and c;world 7;").asks(0), 1);
