@@ -6,27 +6,20 @@ import java.lang.reflect.Method;
 import java.lang.reflect.Modifier;
 import java.nio.file.Files;
 import java.nio.file.Path;
-import java.util.ArrayList;
-import java.util.List;
-import java.util.Map;
 import java.util.Set;
-import java.util.TreeMap;
 import java.util.TreeSet;
 import java.util.regex.Matcher;
 import java.util.regex.Pattern;
 
-/** The face is the document's and nothing more, the source keeps to the language, no call makes objects. */
+/** The face is the document's and nothing more, and no call makes objects. */
 public final class FaceTest {
     private static final Path DOC = Path.of("../shared/DOC.md");
-    private static final Path SOURCE = Path.of("src/main/java/LotBeliefs.java");
     private static int wrong = 0;
 
     public static void main(String[] args) throws Exception {
         face();
-        sizes();
-        language();
         room();
-        System.out.println(wrong == 0 ? "the face and the source are as they should be" : wrong + " things wrong");
+        System.out.println(wrong == 0 ? "the face is the document's" : wrong + " things wrong");
         if (wrong != 0) {
             System.exit(1);
         }
@@ -103,51 +96,6 @@ public final class FaceTest {
                 need(!open.contains(m.getName()), "a method inside with the name of a public one: " + m);
             }
         }
-    }
-
-    /** At most twelve classes, twenty fields beside constants, seven parameters; what is static is constant. */
-    private static void sizes() {
-        List<Class<?>> all = new ArrayList<>(List.of(LotBeliefs.class.getDeclaredClasses()));
-        all.add(LotBeliefs.class);
-        need(all.size() <= 12, "classes: " + all.size());
-        for (Class<?> c : all) {
-            int fields = 0;
-            for (Field f : c.getDeclaredFields()) {
-                boolean shared = Modifier.isStatic(f.getModifiers());
-                fields += shared ? 0 : 1;
-                need(!shared || Modifier.isFinal(f.getModifiers()), "static and not final: " + f);
-            }
-            need(fields <= 20, c + " has fields: " + fields);
-            for (Method m : c.getDeclaredMethods()) {
-                need(m.getParameterCount() <= 7, "parameters: " + m);
-            }
-        }
-    }
-
-    private static void language() throws IOException {
-        String source = Files.readString(SOURCE);
-        String code = source.replaceAll("(?s)/\\*.*?\\*/", "").replaceAll("//[^\\n]*", "");
-        for (String word : new String[] {"import", "package", "->", "::", "catch", "try", "finally", "synchronized",
-            "assert", "instanceof", "\" +", "+ \"", "static {", "finalize", "volatile", "transient", "System.", "Exact", "double", "float", "@", "protected"}) {
-            need(!code.contains(word), "in the source: " + word);
-        }
-        need(code.chars().allMatch(c -> c < 128), "a sign above 127 in the source");
-        Map<String, String> thrown = new TreeMap<>();
-        Matcher m = Pattern.compile("throw new (\\w+)\\(").matcher(code);
-        while (m.find()) {
-            thrown.put(m.group(1), "");
-        }
-        need(thrown.keySet().equals(Set.of("IllegalArgumentException", "IllegalStateException",
-                "IndexOutOfBoundsException")), "thrown: " + thrown.keySet());
-        int longest = 0;
-        int open = 0;
-        for (String line : source.split("\n")) {
-            boolean begins = line.matches(" {4,8}[a-z].*\\) .*\\{") && !line.contains(" class ");
-            open = begins ? 0 : open + 1;
-            longest = line.matches(" {4}( {4})?\\}") ? Math.max(longest, open) : longest;
-            need(line.length() <= 120, "a long line: " + line);
-        }
-        need(longest <= 60, "a method of lines: " + longest);
     }
 
     /** What 512 calls of the dearest kinds make: nothing, but for what the machine itself may need. */
